@@ -1,4 +1,4 @@
-/** Promise 32 (digest): it is made from the answers of the other methods, and follows each of them. */
+/** Promise 32 (digest): it is made from the answers of the other methods; and all of them in a full rental. */
 public final class DigestTest {
     public static void main(String[] args) {
         BookRental x = new BookRental();
@@ -24,11 +24,42 @@ public final class DigestTest {
         same("lost copies", x);
         x.set(1, 7);
         same("settings", x);
+        full();
         long before = x.digest();
         x.type('a');
         Due.isTrue("the text does not matter", x.digest() == before);
         Due.is("a new one is known", new BookRental().digest(), byHand());
         Due.end();
+    }
+
+    /** Where there is room for no more, every call still answers. */
+    private static void full() {
+        BookRental x = new BookRental();
+        for (int i = 0; i < 6; i++) {
+            x.addTitle(1000, 1);
+            x.addCourse(i, 1, 4);
+            x.buy(i, 10);
+        }
+        same("a full rental", x);
+        Due.is("served()", x.served(), 24);
+        Due.is("agingOf(5)", x.agingOf(5), 2000);
+        Due.is("next(5)", x.next(5), 50);
+        for (int i = 0; i < 8; i++) {
+            Due.is("rent(" + i + ", 5)", x.rent(i, 5), 50 + i);
+        }
+        Due.is("sell(58)", x.sell(58), 750);
+        Due.is("offer(5, 1, 0)", x.offer(5, 1, 0), 200);
+        Due.is("shelf(5, 0)", x.shelf(5, 0), 1);
+        Due.is("the last one is missing", x.copy(59, 3), 4);
+        Due.is("shelf(5, 1)", x.shelf(5, 1), 0);
+        Due.is("lostIn(131)", x.lostIn(131), 8);
+        Due.is("pass(131)", x.pass(131), 8);
+        Due.is("the last one again", x.rent(7, 5), 59);
+        Due.is("giveBack(59, 4)", x.giveBack(59, 4), 600);
+        Due.is("buyBack when full", x.buyBack(0, 1, 0), Due.FULL);
+        same("a full rental in the end", x);
+        Due.is("undo()", x.undo(), 4);
+        same("a full rental after undo", x);
     }
 
     private static void same(String when, BookRental x) {
