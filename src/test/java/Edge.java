@@ -61,12 +61,18 @@ final class Edge {
         is(call + " leaves the length of the text", x.clearText(), twin.clearText());
     }
 
-    /** The call answers as is due, and one undo() leads back to the state before it. */
+    /** The call answers as is due, and one undo() leads back to the state before it, and behind another call too. */
     static void recorded(String call, Made made, Call it, long due) {
         BookRental x = made.make();
         is(call, it.on(x), due);
         is(call + " is recorded", x.undo(), Math.min(states(made.make()) + 1, MOST_STATES) - 1);
         is(call + " is undone", x.digest(), made.make().digest());
+        x = made.make();
+        x.set(0, 11);
+        long before = x.digest();
+        is(call + " is taken behind another call", it.on(x) >= 0 ? 1 : 0, 1);
+        x.undo();
+        is(call + " is undone behind another call", x.digest(), before);
     }
 
     private static int states(BookRental x) {

@@ -151,7 +151,8 @@ public final class PromisesTest {
         error(Due.VALUE, Edge::busy, y -> y.addCourse(0, 0, 0), y -> y.addCourse(0, 31, 0), y -> y.addCourse(0, 1, -1),
             y -> y.addCourse(0, 1, 201));
         error(Due.FULL, Edge::full, y -> y.addCourse(0, 1, 0), y -> y.addCourse(5, 30, 200));
-        error(Due.INDEX, Edge::full, y -> y.addCourse(6, 1, 0), y -> y.addCourse(-1, 0, 0), y -> y.addCourse(6, 31, 201));
+        error(Due.INDEX, Edge::full, y -> y.addCourse(6, 1, 0), y -> y.addCourse(-1, 0, 0),
+            y -> y.addCourse(6, 31, 201));
         error(Due.VALUE, Edge::full, y -> y.addCourse(0, 0, 0), y -> y.addCourse(5, 1, 201));
     }
 
@@ -193,13 +194,24 @@ public final class PromisesTest {
     private static void count() {
         Edge.sentence(8, "Returns the number; BAD_VALUE if what is out of range.");
         tells("count", Edge::busy, BookRental::count, 2, 8, 2, 0, 3, 2, 1, 1, 1, 6, 100, 25, 30, 20);
+        tells("count", () -> sparse(), BookRental::count, 2, 8, 2, 0, 0, 2, 3, 1, 2, 4, 100, 25, 30, 20);
         error(Due.VALUE, Edge::busy, x -> x.count(14), x -> x.count(-1));
+    }
+
+    /** None in stock: of title 0 one is lost, one rented, one sold, two missing; of title 1 one is rented, two sold. */
+    private static BookRental sparse() {
+        BookRental x = Edge.busy();
+        x.sell(6);
+        x.sell(7);
+        x.shelf(0, 0);
+        return x;
     }
 
     private static void title() {
         Edge.sentence(9, "Returns the property; BAD_INDEX if there is no such title; BAD_VALUE if what is out of range.");
         tells("title 0", Edge::busy, (x, what) -> x.title(0, what), 1000, 5, 30, 2, 28, 5, 1);
         tells("title 1", Edge::busy, (x, what) -> x.title(1, what), 2000, 6, 3, 3, 0, 3, 2);
+        tells("more than demand", () -> Edge.shop(5, 3), (x, what) -> x.title(0, what), 1000, 5, 3, 5, 0, 5, 5);
         error(Due.INDEX, Edge::busy, x -> x.title(2, 0), x -> x.title(-1, 0), x -> x.title(2, 7), x -> x.title(-1, -1));
         error(Due.VALUE, Edge::busy, x -> x.title(0, 7), x -> x.title(1, -1));
     }
@@ -208,7 +220,8 @@ public final class PromisesTest {
         Edge.sentence(10, "Returns the property; BAD_INDEX if there is no such course; BAD_VALUE if what is out of range.");
         tells("course 0", Edge::busy, (x, what) -> x.course(0, what), 0, 4, 30, 1);
         tells("course 1", Edge::busy, (x, what) -> x.course(1, what), 1, 5, 3, 2);
-        error(Due.INDEX, Edge::busy, x -> x.course(2, 0), x -> x.course(-1, 0), x -> x.course(2, 4), x -> x.course(-1, -1));
+        error(Due.INDEX, Edge::busy, x -> x.course(2, 0), x -> x.course(-1, 0), x -> x.course(2, 4),
+            x -> x.course(-1, -1));
         error(Due.VALUE, Edge::busy, x -> x.course(0, 4), x -> x.course(1, -1));
     }
 
@@ -217,10 +230,15 @@ public final class PromisesTest {
         tells("lost", Edge::busy, (x, what) -> x.copy(Edge.LOST, what), 0, 5, 4, 3, -1, -1, 200, 60, 150, 1, 0);
         tells("rented", Edge::busy, (x, what) -> x.copy(Edge.RENTED, what), 0, 5, 0, 1, 0, 100, 1000, 300, 750, 1, 0);
         tells("sold", Edge::busy, (x, what) -> x.copy(Edge.SOLD, what), 0, 5, 0, 2, -1, -1, 1000, 300, 750, 1, 0);
-        tells("in stock", Edge::busy, (x, what) -> x.copy(Edge.STOCKED, what), 0, 5, 0, 0, -1, -1, 1000, 300, 750, 1, 0);
+        tells("in stock", Edge::busy, (x, what) -> x.copy(Edge.STOCKED, what), 0, 5, 0, 0, -1, -1, 1000, 300, 750, 1,
+            0);
         tells("missing", Edge::busy, (x, what) -> x.copy(Edge.MISSING, what), 0, 5, 0, 4, -1, -1, 1000, 300, 750, 1, 0);
         tells("late", () -> Edge.late(7), (x, what) -> x.copy(0, what), 0, 5, 0, 1, 3, 100, 1000, 300, 750, 1, 7);
         tells("of no use", () -> unwanted(), (x, what) -> x.copy(1, what), 0, 4, 1, 0, -1, -1, 640, 192, 480, 0, 0);
+        tells("two editions behind", () -> behind(2, 49), (x, what) -> x.copy(1, what), 0, 5, 0, 0, -1, -1, 20, 6, 15,
+            1, 0);
+        tells("all taken off", () -> behind(2, 50), (x, what) -> x.copy(1, what), 0, 5, 0, 0, -1, -1, 0, 0, 0, 1, 0);
+        tells("no more than all", () -> behind(3, 50), (x, what) -> x.copy(1, what), 0, 5, 0, 0, -1, -1, 0, 0, 0, 1, 0);
         error(Due.INDEX, Edge::busy, x -> x.copy(8, 0), x -> x.copy(-1, 0), x -> x.copy(8, 11), x -> x.copy(-1, -1));
         error(Due.VALUE, Edge::busy, x -> x.copy(0, 11), x -> x.copy(7, -1));
     }
@@ -230,6 +248,15 @@ public final class PromisesTest {
         BookRental x = Edge.shop(1, 9);
         x.buyBack(0, 4, 1);
         x.setCourse(0, 5, 9);
+        return x;
+    }
+
+    private static BookRental behind(int editions, int cut) {
+        BookRental x = edition(5);
+        x.set(3, cut);
+        for (int i = 0; i < editions; i++) {
+            x.newEdition(0);
+        }
         return x;
     }
 
@@ -273,8 +300,10 @@ public final class PromisesTest {
         Edge.told("of a later edition", Edge::busy, x -> x.offer(0, 30, 4), 80);
         Edge.told("supplied", Edge::busy, x -> x.offer(1, 6, 0), 400);
         Edge.told("of no use", Edge::busy, x -> x.offer(0, 3, 0), 0);
-        error(Due.INDEX, Edge::busy, y -> y.offer(2, 5, 0), y -> y.offer(-1, 5, 0), y -> y.offer(2, 0, 5), y -> y.offer(-1, 5, -1));
-        error(Due.VALUE, Edge::busy, y -> y.offer(0, 0, 0), y -> y.offer(0, 31, 0), y -> y.offer(1, 5, -1), y -> y.offer(1, 5, 5));
+        error(Due.INDEX, Edge::busy, y -> y.offer(2, 5, 0), y -> y.offer(-1, 5, 0), y -> y.offer(2, 0, 5),
+            y -> y.offer(-1, 5, -1));
+        error(Due.VALUE, Edge::busy, y -> y.offer(0, 0, 0), y -> y.offer(0, 31, 0), y -> y.offer(1, 5, -1),
+            y -> y.offer(1, 5, 5));
     }
 
     private static void buyBack() {
@@ -335,15 +364,16 @@ public final class PromisesTest {
         error(Due.INDEX, Edge::busy, y -> y.rent(8, 0), y -> y.rent(-1, 0), y -> y.rent(2, 2), y -> y.rent(2, -1),
             y -> y.rent(8, 2));
         Edge.told("one of this title is rented already", Edge::busy, y -> y.rent(0, 0), Due.STATE);
-        Edge.told("four are rented already", () -> fourRented(), y -> y.rent(5, 4), Due.STATE);
-        Edge.recorded("another customer may", () -> fourRented(), y -> y.rent(6, 4), 40);
+        Edge.recorded("three are rented already", () -> rented(3), y -> y.rent(5, 4), 40);
+        Edge.told("four are rented already", () -> rented(4), y -> y.rent(5, 4), Due.STATE);
+        Edge.recorded("another customer may", () -> rented(4), y -> y.rent(6, 4), 40);
         Edge.told("none in stock", () -> Edge.shop(0, 9), y -> y.rent(0, 0), Due.STATE);
         error(Due.INDEX, () -> Edge.shop(0, 9), y -> y.rent(8, 0), y -> y.rent(0, 1));
     }
 
-    private static BookRental fourRented() {
+    private static BookRental rented(int copies) {
         BookRental x = Edge.full();
-        for (int course = 0; course < 4; course++) {
+        for (int course = 0; course < copies; course++) {
             x.rent(5, course);
         }
         return x;
@@ -353,6 +383,16 @@ public final class PromisesTest {
         Edge.sentence(18, "Returns the number of the copy; NONE if there is none; BAD_INDEX if there is no such course.");
         Edge.told("course 0", Edge::busy, x -> x.next(0), Edge.STOCKED);
         Edge.told("course 1", Edge::busy, x -> x.next(1), 6);
+        int[] edition = {5, 5, 4, 4, 3};
+        int[] grade = {0, 2, 2, 2, 1};
+        BookRental y = Edge.shop(0, 99);
+        for (int i = 0; i < edition.length; i++) {
+            y.buyBack(0, edition[i], grade[i]);
+        }
+        for (int due : new int[] {2, 3, 1, 4, 0}) {
+            Edge.is("grade, edition, number", y.next(0), due);
+            y.sell(due);
+        }
         Edge.told("none", () -> Edge.shop(0, 9), x -> x.next(0), Due.NONE);
         Edge.told("none that the course takes", () -> fullOfUnwanted(), x -> x.next(0), Due.NONE);
         error(Due.INDEX, Edge::busy, x -> x.next(2), x -> x.next(-1));
@@ -391,10 +431,12 @@ public final class PromisesTest {
         Edge.is("late fees then", x.book(1), 100);
         Edge.is("lost then", x.book(3), 600);
         Edge.is("charged then", x.customer(1, 2), 880);
-        error(Due.INDEX, Edge::busy, y -> y.giveBack(8, 0), y -> y.giveBack(-1, 0), y -> y.giveBack(8, 5), y -> y.giveBack(-1, -1));
+        error(Due.INDEX, Edge::busy, y -> y.giveBack(8, 0), y -> y.giveBack(-1, 0), y -> y.giveBack(8, 5),
+            y -> y.giveBack(-1, -1));
         error(Due.VALUE, Edge::busy, y -> y.giveBack(1, -1), y -> y.giveBack(1, 5), y -> y.giveBack(Edge.SOLD, 5),
             y -> y.giveBack(Edge.STOCKED, -1));
-        error(Due.STATE, Edge::busy, y -> y.giveBack(Edge.LOST, 0), y -> y.giveBack(Edge.SOLD, 4), y -> y.giveBack(Edge.STOCKED, 0),
+        error(Due.STATE, Edge::busy, y -> y.giveBack(Edge.LOST, 0), y -> y.giveBack(Edge.SOLD, 4),
+            y -> y.giveBack(Edge.STOCKED, 0),
             y -> y.giveBack(Edge.MISSING, 0));
     }
 
@@ -407,10 +449,13 @@ public final class PromisesTest {
         tells("ruined", () -> worn(), (x, what) -> x.charge(0, 3, what), 100, 600, 700);
         tells("at most the worth", () -> wornAndDear(), (x, what) -> x.charge(0, 4, what), 600, 600, 1200);
         tells("not late", Edge::busy, (x, what) -> x.charge(Edge.RENTED, 4, what), 0, 600, 600);
-        error(Due.INDEX, Edge::busy, y -> y.charge(8, 0, 0), y -> y.charge(-1, 0, 0), y -> y.charge(8, 5, 0), y -> y.charge(8, 0, 3));
-        error(Due.VALUE, Edge::busy, y -> y.charge(1, -1, 0), y -> y.charge(1, 5, 0), y -> y.charge(1, 0, -1), y -> y.charge(1, 0, 3),
+        error(Due.INDEX, Edge::busy, y -> y.charge(8, 0, 0), y -> y.charge(-1, 0, 0), y -> y.charge(8, 5, 0),
+            y -> y.charge(8, 0, 3));
+        error(Due.VALUE, Edge::busy, y -> y.charge(1, -1, 0), y -> y.charge(1, 5, 0), y -> y.charge(1, 0, -1),
+            y -> y.charge(1, 0, 3),
             y -> y.charge(Edge.SOLD, 5, 0), y -> y.charge(Edge.STOCKED, 0, 3));
-        error(Due.STATE, Edge::busy, y -> y.charge(Edge.LOST, 0, 0), y -> y.charge(Edge.SOLD, 0, 0), y -> y.charge(Edge.STOCKED, 4, 2),
+        error(Due.STATE, Edge::busy, y -> y.charge(Edge.LOST, 0, 0), y -> y.charge(Edge.SOLD, 0, 0),
+            y -> y.charge(Edge.STOCKED, 4, 2),
             y -> y.charge(Edge.MISSING, 0, 1));
     }
 
@@ -470,7 +515,8 @@ public final class PromisesTest {
         tells("customer 7", Edge::busy, (x, what) -> x.customer(7, what), 0, 0, 0);
         tells("due today", () -> Edge.late(0), (x, what) -> x.customer(3, what), 1, 0, 300);
         tells("late", () -> Edge.late(1), (x, what) -> x.customer(3, what), 1, 1, 300);
-        error(Due.INDEX, Edge::busy, y -> y.customer(8, 0), y -> y.customer(-1, 0), y -> y.customer(8, 3), y -> y.customer(-1, -1));
+        error(Due.INDEX, Edge::busy, y -> y.customer(8, 0), y -> y.customer(-1, 0), y -> y.customer(8, 3),
+            y -> y.customer(-1, -1));
         error(Due.VALUE, Edge::busy, y -> y.customer(0, 3), y -> y.customer(7, -1));
     }
 
@@ -481,7 +527,8 @@ public final class PromisesTest {
         Edge.told("too late", Edge::busy, x -> x.lostIn(131), 2);
         Edge.told("400 days", Edge::busy, x -> x.lostIn(400), 2);
         Edge.told("beyond the last day", () -> rentedAtTheEnd(), x -> x.lostIn(400), 1);
-        error(Due.VALUE, Edge::busy, y -> y.lostIn(0), y -> y.lostIn(401), y -> y.lostIn(-1), y -> y.lostIn(Integer.MAX_VALUE));
+        error(Due.VALUE, Edge::busy, y -> y.lostIn(0), y -> y.lostIn(401), y -> y.lostIn(-1),
+            y -> y.lostIn(Integer.MAX_VALUE));
     }
 
     private static BookRental rentedAtTheEnd() {
@@ -497,6 +544,8 @@ public final class PromisesTest {
         Edge.sentence(25, "Returns the amount; BAD_INDEX if there is no such title; FULL if the current edition is 30.");
         Edge.told("title 0: the rented, the missing and the one in stock", Edge::busy, x -> x.agingOf(0), 600);
         Edge.told("title 1", Edge::busy, x -> x.agingOf(1), 1200);
+        Edge.told("the rented one and two missing ones", () -> sparse(), x -> x.agingOf(0), 600);
+        Edge.told("the rented one", () -> sparse(), x -> x.agingOf(1), 400);
         Edge.told("to the last edition", () -> edition(29), x -> x.agingOf(0), 400);
         error(Due.INDEX, Edge::busy, x -> x.agingOf(2), x -> x.agingOf(-1));
         error(Due.FULL, () -> edition(30), x -> x.agingOf(0));
@@ -506,7 +555,8 @@ public final class PromisesTest {
     private static void served() {
         Edge.sentence(26, "dealt out so that they are most");
         Edge.told("two titles", Edge::busy, BookRental::served, 3);
-        Edge.told("the later edition is kept for the course that needs it", () -> twoCourses(1, 1), BookRental::served, 2);
+        Edge.told("the later edition is kept for the course that needs it", () -> twoCourses(1, 1),
+            BookRental::served, 2);
         Edge.told("more students than copies", () -> twoCourses(200, 200), BookRental::served, 2);
         Edge.told("no students", () -> twoCourses(0, 0), BookRental::served, 0);
         Edge.told("the earlier edition serves nobody", () -> twoCourses(0, 2), BookRental::served, 1);
@@ -567,13 +617,15 @@ public final class PromisesTest {
 
     private static void textFault() {
         Edge.sentence(30, "Returns its fault; NONE if it has none.");
-        String[] right = {"rent 0 0", "back 1 2", "buy 0 1", "sell 99999", "wait 007", "  wait5  ;sell 3 ", "buy1 2;buy 1 2;wait 1"};
+        String[] right = {"rent 0 0", "back 1 2", "buy 0 1", "sell 99999", "wait 007", "  wait5  ;sell 3 ",
+            "buy1 2;buy 1 2;wait 1"};
         for (String text : right) {
             Edge.told(text, () -> busyWith(text), BookRental::textFault, Due.NONE);
         }
-        String[] wrong = {"", "  ", "sell", "sell 1;", "rent 0", "rent 0 ", "sel", "sells 1", "sell 123456", "buy 1 123456", "sell 1 2",
-            "buy 1;2", "Sell 1", "sell x", "sell 1,", ";", "sell 1;;"};
-        int[] due = {0, 2, 4, 7, 6, 7, 0, 0, 10, 11, 7, 5, 0, 5, 6, 0, 7};
+        String[] wrong = {"", "  ", "sell", "sell 1;", "rent 0", "rent 0 ", "sel", "sells 1", "sell 123456",
+            "buy 1 123456", "sell 1 2",
+            "buy 1;2", "Sell 1", "sell x", "sell 1,", ";", "sell 1;;", "sellz 1"};
+        int[] due = {0, 2, 4, 7, 6, 7, 0, 0, 10, 11, 7, 5, 0, 5, 6, 0, 7, 0};
         for (int i = 0; i < wrong.length; i++) {
             String text = wrong[i];
             Edge.told(text, () -> busyWith(text), BookRental::textFault, due[i]);
@@ -582,7 +634,8 @@ public final class PromisesTest {
 
     private static void orders() {
         Edge.sentence(31, "Returns how many orders were carried out without an error; BAD_STATE if the text has a fault.");
-        Edge.recorded("each of the words", () -> busyWith("rent 2 0;back 3 1;sell 3;buy 1 2;wait 9"), BookRental::orders, 5);
+        Edge.recorded("each of the words", () -> busyWith("rent 2 0;back 3 1;sell 3;buy 1 2;wait 9"),
+            BookRental::orders, 5);
         Edge.recorded("until one returns an error", () -> busyWith("sell 3;sell 3;wait 9"), BookRental::orders, 1);
         Edge.recorded("the first one", () -> busyWith("sell 2;wait 9"), BookRental::orders, 0);
         BookRental x = busyWith("rent 2 0;back 3 1;sell 3;buy 1 2;wait 9");
@@ -599,6 +652,10 @@ public final class PromisesTest {
         x.orders();
         Edge.is("those before it stay", x.copy(3, 3), 2);
         Edge.is("those behind it are left", x.count(3), 0);
+        x = busyWith("wait 129;wait 00001;wait 1");
+        Edge.is("three orders", x.orders(), 3);
+        Edge.is("the day then", x.count(3), 131);
+        Edge.is("two are lost by the last one", x.count(7), 3);
         for (String text : new String[] {"", "sell 3;", "sell 3 3", "sell 2;x"}) {
             error(Due.STATE, () -> busyWith(text), BookRental::orders);
         }
@@ -606,7 +663,8 @@ public final class PromisesTest {
 
     private static void digest() {
         Edge.sentence(32, "Returns h.");
-        Edge.Made[] rentals = {BookRental::new, Edge::busy, Edge::full, () -> Edge.late(7), () -> worn(), () -> unwanted()};
+        Edge.Made[] rentals = {BookRental::new, Edge::busy, Edge::full, () -> Edge.late(7), () -> worn(),
+            () -> unwanted()};
         for (Edge.Made made : rentals) {
             Edge.told("digest", made, BookRental::digest, hash(made.make()));
         }
